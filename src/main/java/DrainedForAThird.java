@@ -554,7 +554,7 @@ public final class DrainedForAThird {
     private static int commonDivisor(int a, int b) {
         int x = a;
         int y = b;
-        // Each turn at least halves the larger one within two, so an int needs fewer than 64.
+        // Two turns halve the larger one at least, so no int needs 64.
         for (int i = 0; i < 64 && y != 0; i++) {
             int rest = x % y;
             x = y;
@@ -563,7 +563,6 @@ public final class DrainedForAThird {
         return x < 1 ? 1 : x;
     }
 
-    /** Whether the three items from one on are a WORK that has room, which then stands. */
     private boolean comes(int sheet, int from) {
         int kind = sheets.at(sheet, from);
         int number = sheets.at(sheet, from + 1);
@@ -575,13 +574,13 @@ public final class DrainedForAThird {
         return true;
     }
 
-    /** The state of a fen and its works; three of them serve: as it is, as it is thought, as the image keeps it. */
+    /** All that an image keeps, in one: so a thought and the image are taken as a whole and used again. */
     private static final class Fen {
         private static final int CUT = 1, MILL = 2, SLUICE = 3, TALL = 4, BANK = 5;
         private static final int[] UNDER = {NONE, 0, 0, 1, 2, 0};
         private static final int[] MOST = {99, 999, 99, 99, 999, 9, 11, 1, 5};
         private static final int[] MOST_SAID = {99, 20, 99};
-        /** In each of six levels (five parentheses) or, and, <, +, * wait for their right side, and one value comes. */
+        /** Six levels, as five parentheses can be open, of or, and, <, +, * that wait for a right side, and that one. */
         private static final int STACK = 31;
 
         private final int[] height = new int[CELLS];
@@ -883,7 +882,7 @@ public final class DrainedForAThird {
 
         // ---- what a text says
 
-        /** Within its bounds, of a CELL; of calls: of a WORK on it. */
+        /** Of a WORK w on the CELL, or of the CELL alone (NONE), as number means another thing then. */
         int says(Text aRule, int part, int c, int w) {
             int[] code = aRule.codeOf(part);
             int top = 0;
@@ -938,9 +937,9 @@ public final class DrainedForAThird {
         }
     }
 
-    /** A text as it was read: its three parts, each with what it joins ahead of what joins it. */
+    /** A text as it was read; in its parts signs stand behind what they join, so that a stack is enough to tell them. */
     private static final class Text {
-        /** In a part a number stands for itself; what is below 0 is a name, or does something with values ahead. */
+        /** Below 0, as a NUMBER in a part stands for itself; in order: names, signs for one value, signs for two. */
         static final int HEIGHT_OF = -1, PEAT_OF = -2, YEAR_OF = -3, NUMBER_OF = -4, WATER_OF = -5, CELL_OF = -6;
         static final int NOT = -7, MINUS = -8;
         static final int OR = -9, AND = -10, LESS = -11, LIKE = -12, PLUS = -13, LESS_BY = -14, TIMES = -15;
@@ -992,7 +991,7 @@ public final class DrainedForAThird {
     /** THE TAPE, and how a text is read from it. */
     private static final class Reader {
         private static final int TAPE = 160, MOST_DIGITS = 4, MOST_OPEN = 5;
-        /** A TOKEN is a sign's byte, or a NUMBER, the text's END, FOREIGN (none), or WORD and more: one of the words. */
+        /** A TOKEN is told by its byte if it is a sign, so what is none has numbers that no sign has. */
         private static final int END = 0, FOREIGN = 1, NUMERAL = 2, WORD = 256;
         private static final int WORD_OR = WORD + 3, WORD_AND = WORD + 4, WORD_NOT = WORD + 5, FIRST_NAME = WORD + 6;
         private static final int WORDS = 12;

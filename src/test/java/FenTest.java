@@ -207,6 +207,9 @@ public final class FenTest {
             x.work(kind, 4, 2);
             Due.is("COSTS of KIND " + kind, x.told(kind, 10), due[kind]);
         }
+        DrainedForAThird first = new DrainedForAThird();
+        first.work(2, 4, 2);
+        Due.is("COSTS by TEXT 0", first.told(0, 10), 6);
         DrainedForAThird y = Due.ruled("rains 0;shrinks 0;calls 20*number+cell+water*(year=3);");
         y.work(0, 3, 9);
         y.work(0, 2, 9);

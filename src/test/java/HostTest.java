@@ -87,6 +87,10 @@ public final class HostTest {
         row(x, 2, 1, 1, 2, 3, 4, 5, 6);
         x.sheet(1, 1, 6);
         digits("another one stays", x, 2, 1, 2, 3, 4, 5);
+        row(x, 3, 2, 5, 1, 1);
+        x.sheet(3, 2, 3);
+        Due.is("a work of zeros", x.works(3, 2, 0, 1), 1);
+        Due.is("its KIND", x.told(0, 8), 0);
     }
 
     private static void sheetWrong() {

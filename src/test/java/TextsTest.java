@@ -119,6 +119,9 @@ public final class TextsTest {
         faultIn("1 + 99999999999999999999", 4);
         faultIn("heights", 0);
         faultIn("heigh", 0);
+        faultIn("bear", 0);
+        faultIn("yearz", 0);
+        faultIn("(x 1))", 1);
         faultIn("1+x", 2);
         faultIn("Height", 0);
         faultIn("1 ? 2", 2);
@@ -176,6 +179,8 @@ public final class TextsTest {
         stands("(((((1)))))+(((((1)))))", 2);
         stands("----1+----1*----3", 4);
         stands("not -1 or not -0", 1);
+        stands("not 0 and not 0 and not 0 and not 0 and not 0 and not 0 and not 0", 1);
+        stands("(0)or(0)or(0)or(0)or(0)or(0)or(4)", 1);
         stands("not not not not -1+-1<2", 1);
         stands("not not not not (1)-(1)", 0);
         stands("1or 1and 1<1+1*(1or 1and 1<1+1*(1or 1and 1<1+1*(1or 1and 1<1+1*(1or 1and 1<1+1*(0or 1and 1<1+1*5)))))", 1);

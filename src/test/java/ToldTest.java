@@ -382,6 +382,7 @@ public final class ToldTest {
         Due.is("no years, one wet", x.chance(7, 20, 12, 0), 0);
         Due.is("no years, one wet, below", x.chance(7, 20, 12, 1), 1);
         Due.is("no years, eleven", x.chance(7, 20, 11, 0), 1);
+        Due.is("no years, none at least", x.chance(7, 20, 0, 0), 1);
         Due.is("none of ten years", x.chance(7, 20, 1012, 0), 0);
     }
 
