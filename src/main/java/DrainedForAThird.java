@@ -580,7 +580,7 @@ public final class DrainedForAThird {
         private static final int[] UNDER = {NONE, 0, 0, 1, 2, 0};
         private static final int[] MOST = {99, 999, 99, 99, 999, 9, 11, 1, 5};
         private static final int[] MOST_SAID = {99, 20, 99};
-        /** Six levels, as five parentheses can be open, of or, and, <, +, * that wait for a right side, and that one. */
+        /** Six levels, as five ( can be open, of or, and, <, +, * that wait for a right side, and that one. */
         private static final int STACK = 31;
 
         private final int[] height = new int[CELLS];
@@ -937,7 +937,7 @@ public final class DrainedForAThird {
         }
     }
 
-    /** A text as it was read; in its parts signs stand behind what they join, so that a stack is enough to tell them. */
+    /** A text as it was read; in its parts signs stand behind what they join, so that a stack can tell them. */
     private static final class Text {
         /** Below 0, as a NUMBER in a part stands for itself; in order: names, signs for one value, signs for two. */
         static final int HEIGHT_OF = -1, PEAT_OF = -2, YEAR_OF = -3, NUMBER_OF = -4, WATER_OF = -5, CELL_OF = -6;
