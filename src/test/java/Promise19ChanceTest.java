@@ -116,8 +116,9 @@ public final class Promise19ChanceTest {
                 enough += rain(Integer.MAX_VALUE - 1 + i) <= 4 ? 1 : 0;
             }
             long common = divisor(enough, m);
-            Due.is("behind the highest SEED comes the lowest, above", x.chance(Integer.MAX_VALUE - 1, m, 101, 0), enough / common);
-            Due.is("below", x.chance(Integer.MAX_VALUE - 1, m, 101, 1), m / common);
+            // Behind the highest SEED comes the lowest.
+            Due.is("above, m " + m, x.chance(Integer.MAX_VALUE - 1, m, 101, 0), enough / common);
+            Due.is("below, m " + m, x.chance(Integer.MAX_VALUE - 1, m, 101, 1), m / common);
         }
     }
 

@@ -55,7 +55,10 @@ public final class Promise21BackTest {
             Due.is("WORK " + w + " can't be set", x.set(5, w, 1), BAD);
         }
         Due.is("WORKS that go", x.count(1), 1);
-        Due.is("WORKS that stand on 5", Due.read(x, "rains number;shrinks 1;calls 1;") == 1 && x.force(1) == 0 ? x.asks(0, 5) : -1, 0);
+        Due.read(x, "rains number;shrinks 1;calls 1;");
+        x.force(1);
+        Due.is("WORKS that stand on 4", x.asks(0, 4), 1);
+        Due.is("WORKS that stand on 5", x.asks(0, 5), 0);
         Due.is("a new one", x.work(3, 6, 7), 1);
         Due.is("its KIND", x.told(1, 8), 3);
         Due.is("its NUMBER", x.told(1, 5), 6);

@@ -22,7 +22,8 @@ final class Twin {
         List<String> got = all(x);
         List<String> want = all(made.get());
         for (int i = 0; i < want.size(); i++) {
-            Due.holds(call + " changes nothing (" + got.get(i) + ", due is " + want.get(i) + ")", got.get(i).equals(want.get(i)));
+            String otherwise = " changes nothing (" + got.get(i) + ", due is " + want.get(i) + ")";
+            Due.holds(call + otherwise, got.get(i).equals(want.get(i)));
         }
     }
 
