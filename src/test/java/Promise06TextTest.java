@@ -411,6 +411,13 @@ public final class Promise06TextTest {
         stands("1+2*(1+2*(1+2*(1+2*(1+2*(1+1)))))", 95);
         stands("0or 1and 0+1*(0or 1and 0+1*(0or 1and 0+1*(0or 1and 0+1*(0or 1and 0+1*(0or 1and 3<2+1*2)))))", 1);
         stands("0or 1and 0+1*(0or 1and 0+1*(0or 1and 0+1*(0or 1and 0+1*(0or 1and 0+1*(0or 1and 4<2+1*2)))))", 0);
+        // Five signs wait at each of six levels for what stands innermost, and all of it hangs on that.
+        String open = "0or 1and 0<0+1*";
+        stands((open + "(").repeat(5) + open + "7" + ")".repeat(5), 1);
+        stands((open + "(").repeat(5) + open + "0" + ")".repeat(5), 0);
+        String alike = "0or 5and 3=1+2*";
+        stands((alike + "(").repeat(5) + alike + "1" + ")".repeat(5), 1);
+        stands((alike + "(").repeat(5) + alike + "2" + ")".repeat(5), 0);
         stands("1" + "+1".repeat(65), 66);
         stands("1" + "*1".repeat(65), 1);
         stands("0" + "or 0".repeat(32) + "or 7", 1);

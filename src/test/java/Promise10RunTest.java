@@ -12,6 +12,7 @@ public final class Promise10RunTest {
         judged();
         dryThen();
         kept();
+        shorterBehindLonger();
         ofCells();
         noYears();
         behindTheLastYear();
@@ -104,6 +105,20 @@ public final class Promise10RunTest {
         DrainedForAThird y = new DrainedForAThird();
         Due.all(y, 4, 0);
         Due.is("all DRY ahead of the first", y.run(3, 4), 3);
+    }
+
+    private static void shorterBehindLonger() {
+        Due.sentence("n YEARS, in thought: of these alone, JUDGED, how many are DRY then, KEPT");
+        DrainedForAThird z = Due.wetThenDry();
+        int[] judged = {NONE, 0, 0, 2, 2, 4, 4, 4, 4};
+        int[] dry = {NONE, 10, 10, 11, 11, 12, 12, 12, 12};
+        int[] kept = {0, 1, 2, 3, 4, 5, 6, 6, 7};
+        for (int n = 8; n >= 0; n--) {
+            Due.is("KEPT of 30", z.run(30, 4), 29);
+            Due.is("JUDGED behind 30: run(" + n + ", 2)", z.run(n, 2), judged[n]);
+            Due.is("DRY then behind 30: run(" + n + ", 3)", z.run(n, 3), dry[n]);
+            Due.is("KEPT behind 30: run(" + n + ", 4)", z.run(n, 4), kept[n]);
+        }
     }
 
     private static void ofCells() {

@@ -7,6 +7,7 @@ public final class Promise11FirstTest {
         theFirst();
         never();
         noYears();
+        shorterBehindLonger();
         behindOnly();
         orMore();
         behindTheLastYear();
@@ -45,6 +46,17 @@ public final class Promise11FirstTest {
         Due.is("first(0, 12), all DRY ahead of them", y.first(0, 12), NONE);
         Due.is("first(1, 12)", y.first(1, 12), 0);
         Due.is("first(0, 12) again", y.first(0, 12), NONE);
+    }
+
+    private static void shorterBehindLonger() {
+        Due.sentence("The first of n YEARS (of these alone, whatever was thought ahead)");
+        DrainedForAThird z = Due.wetThenDry();
+        for (int n = 8; n >= 0; n--) {
+            Due.is("first(30, 12)", z.first(30, 12), 4);
+            Due.is("first(" + n + ", 12) behind 30", z.first(n, 12), n > 4 ? 4 : NONE);
+            Due.is("first(" + n + ", 11) behind 30", z.first(n, 11), n > 2 ? 2 : NONE);
+            Due.is("first(" + n + ", 10) behind 30", z.first(n, 10), n > 0 ? 0 : NONE);
+        }
     }
 
     private static void behindOnly() {
